@@ -8,6 +8,7 @@ public final class GaugeBlocks {
     private static final int NOMINAL_MIN = 500;
     private static final int NOMINAL_MAX = 100000;
     private static final int LENGTH_MAX = STACK_MAX * NOMINAL_MAX;
+    private static final int DIGITS_MAX = 6;
     private static final int DEVIATION_MAX = 900;
     private static final int WARMTH_MAX = 1000;
     private static final int WARMTH_OF_A_SECOND = 5;
@@ -157,18 +158,13 @@ public final class GaugeBlocks {
             throw new IllegalArgumentException("the buffer is not a complete order text");
         }
         saved.push(state);
-        int executed = carryOutOrders();
-        text.length = 0;
-        return executed;
-    }
-
-    private int carryOutOrders() {
         int executed = 0;
         text.at = 0;
         while (executed < BUFFER_MAX && text.readOrder() && carryOut(text.letter, text.first, text.second)) {
             executed++;
             text.readSign(OrderText.SEPARATOR);
         }
+        text.length = 0;
         return executed;
     }
 
@@ -181,7 +177,11 @@ public final class GaugeBlocks {
             case 'u':
                 return state.takeTopOff(first) != NONE;
             case 'h':
-                return state.warm(first, second * WARMTH_OF_A_SECOND);
+                if (!state.hasBlock(first)) {
+                    return false;
+                }
+                state.warm(first, second * WARMTH_OF_A_SECOND);
+                return true;
             case 'r':
                 state.letPass(first);
                 return true;
@@ -503,12 +503,8 @@ public final class GaugeBlocks {
             return sum;
         }
 
-        boolean warm(int block, int increase) {
-            if (!hasBlock(block)) {
-                return false;
-            }
+        void warm(int block, int increase) {
             warmth[block] = Math.min(warmth[block] + increase, WARMTH_MAX);
-            return true;
         }
 
         void letPass(int passing) {
@@ -774,11 +770,12 @@ public final class GaugeBlocks {
         }
 
         private static int nextOfOldWay(State state, int taken, int rest) {
-            int divisor = 10 * placeValueOfLastDigit(rest);
+            int zeros = zerosAtEnd(rest);
             int best = NONE;
             for (int block = 0; block < state.blocks; block++) {
                 int left = rest - state.nominal[block];
-                boolean fits = state.isFree(block) && (taken >> block & 1) == 0 && left >= 0 && left % divisor == 0;
+                boolean isThere = state.isFree(block) && (taken >> block & 1) == 0;
+                boolean fits = isThere && left >= 0 && zerosAtEnd(left) > zeros;
                 if (fits && (best == NONE || state.nominal[block] > state.nominal[best])) {
                     best = block;
                 }
@@ -786,12 +783,15 @@ public final class GaugeBlocks {
             return best;
         }
 
-        private static int placeValueOfLastDigit(int rest) {
-            int value = 1;
-            while (value < LENGTH_MAX && rest % (10 * value) == 0) {
-                value *= 10;
+        /** 0 has more zeros than each other length. */
+        private static int zerosAtEnd(int length) {
+            int left = length;
+            int zeros = 0;
+            while (zeros < DIGITS_MAX && left % 10 == 0) {
+                left /= 10;
+                zeros++;
             }
-            return value;
+            return zeros;
         }
 
         static int nearestTo(State state, int length) {
@@ -883,7 +883,6 @@ public final class GaugeBlocks {
     /** The buffer and a reader that goes through it; where the reader stops is the first error, or the end. */
     private static final class OrderText {
         static final int SEPARATOR = ';';
-        private static final int DIGITS_MAX = 6;
 
         private final int[] signs = new int[BUFFER_MAX];
         int length;
@@ -981,21 +980,9 @@ public final class GaugeBlocks {
             return number == NONE ? sign - '0' : number * 10 + sign - '0';
         }
 
-        /** Tells whether a number from least to greatest begins with the digits of this one. */
+        /** A number that is too small still grows into the range: the greatest is at least ten times the least. */
         private static boolean canBegin(int number, int least, int greatest) {
-            if (number <= 0) {
-                return number == least;
-            }
-            int low = number;
-            int high = number;
-            for (int digits = 0; digits < DIGITS_MAX && low <= greatest; digits++) {
-                if (high >= least) {
-                    return true;
-                }
-                low = low * 10;
-                high = high * 10 + 9;
-            }
-            return false;
+            return number >= Math.min(least, 1) && number <= greatest;
         }
     }
 }

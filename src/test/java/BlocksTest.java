@@ -234,6 +234,8 @@ final class BlocksTest {
         Checks.due("minutes undone", g.count(2), 61);
         Checks.due("an hour", g.rest(60), 0);
         Checks.due("cold stays cold", g.rest(1), 0);
+        g.hold(0, 60);
+        Checks.due("the first one is the warmest", g.rest(1), 270);
         for (int minutes : new int[] {0, 61, -1, LOW, HIGH}) {
             Checks.dueIllegal("rest(" + minutes + ")", g, () -> g.rest(minutes));
         }

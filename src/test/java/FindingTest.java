@@ -178,6 +178,8 @@ final class FindingTest {
 
     private static void theNearestLengthAtItsEdges() {
         Checks.due("without blocks", new GaugeBlocks().nearest(500), -1);
+        Checks.due("however far", Checks.with(100000).nearest(500), 100000);
+        Checks.due("however far", Checks.with(500).nearest(600000), 500);
         GaugeBlocks g = Checks.with(100000, 100000, 500);
         Checks.due("the longest", g.nearest(600000), 200000);
         Checks.due("the shortest", g.nearest(500), 500);

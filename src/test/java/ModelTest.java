@@ -1,5 +1,6 @@
 import java.lang.reflect.InvocationTargetException;
 import java.lang.reflect.Method;
+import java.lang.reflect.Modifier;
 import java.util.ArrayList;
 import java.util.Comparator;
 import java.util.List;
@@ -24,7 +25,7 @@ final class ModelTest {
         random = new Random(seed);
         boldness = random.nextInt(3);
         for (Method method : GaugeBlocks.class.getDeclaredMethods()) {
-            if (java.lang.reflect.Modifier.isPublic(method.getModifiers())) {
+            if (Modifier.isPublic(method.getModifiers())) {
                 methods.add(method);
             }
         }
@@ -139,7 +140,8 @@ final class ModelTest {
         for (int i = 0; i < many; i++) {
             String[] orders = {
                 "b" + nominal(), "w" + random.nextInt(3) + "+" + random.nextInt(20), "u" + random.nextInt(3),
-                "w" + random.nextInt(3) + "+" + number(model.count(0)), "h" + number(model.count(0)) + "," + (1 + random.nextInt(60)),
+                "w" + random.nextInt(3) + "+" + number(model.count(0)),
+                "h" + number(model.count(0)) + "," + (1 + random.nextInt(60)),
                 "r" + (1 + random.nextInt(60)),
             };
             out.append(i == 0 ? "" : ";").append(orders[random.nextInt(orders.length)]);

@@ -12,6 +12,8 @@ final class QueriesTest {
         freeLengths();
         lengthsOfAFullCase();
         counts();
+        countsAfterBlocksWent();
+        countsOfAFullCase();
         countsOutOfRange();
         cooling();
         coolingOfAWarmBlock();
@@ -72,7 +74,9 @@ final class QueriesTest {
         for (int rank = 0; rank < lengths.length; rank++) {
             Checks.due("lengths(" + rank + ")", g.lengths(rank), lengths[rank]);
         }
-        Checks.due("lengths beyond", g.lengths(lengths.length), -1);
+        for (int rank = lengths.length; rank <= 21; rank++) {
+            Checks.due("lengths(" + rank + ") beyond", g.lengths(rank), -1);
+        }
         Checks.due("lengths far beyond", g.lengths(HIGH), -1);
     }
 
@@ -140,6 +144,55 @@ final class QueriesTest {
         }
         Checks.due("wear makes blocks bad, wrung or not", g.count(7), 1 + 4 + 8 + 16);
         Checks.due("one of them is wrung", g.blockOf(2, 6), 1);
+    }
+
+    /** The numbers of blocks that went must not count any more. */
+    private static void countsAfterBlocksWent() {
+        GaugeBlocks g = Checks.full();
+        g.set(2, 20);
+        for (int i = 0; i < 4; i++) {
+            g.wring(0, 18);
+            g.wring(0, 19);
+            g.takeOff(0);
+            g.takeOff(0);
+            g.rest(60);
+        }
+        g.hold(19, 60);
+        Checks.due("wear", g.count(5), 320);
+        Checks.due("greatest warmth", g.rest(1), 270);
+        Checks.due("the warm one goes", g.discard(19), 19);
+        Checks.due("wear", g.count(5), 160);
+        Checks.due("greatest warmth", g.rest(1), 0);
+        Checks.dueDouble("meanError", g.meanError(), 160.0 / 19.0);
+        Checks.due("nearest", g.nearest(600000), 1018 + 1017);
+        Checks.due("the old way", g.oldWay(1019, 1), -1);
+        Checks.due("fewest", g.fewest(1019, 1), -1);
+        Checks.due("free ones", g.count(1), (1 << 19) - 1);
+        Checks.due("grade 3", g.count(7), 0);
+        dueOrder(g, 2, 18, 0, 1, 2, 3, 4, 5, 6, 7, 8, 9, 10, 11, 12, 13, 14, 15, 16, 17);
+        Checks.due("different lengths", g.lengths(-1), 19);
+    }
+
+    private static void countsOfAFullCase() {
+        GaugeBlocks g = Checks.full();
+        dueCounts(g, "full", 20, (1 << 20) - 1, 0, 0, 0, 0, 0, 0, 6, 0);
+        Checks.due("rest", g.rest(1), 0);
+        Checks.due("nearest", g.nearest(600000), 1019 + 1018);
+        Checks.due("the old way", g.oldWay(1019, 1), 1 << 19);
+        Checks.due("the old way fails", g.oldWay(1020, 2), 1020);
+        Checks.due("fewest", g.fewest(2037, 1), 3 << 18);
+        Checks.due("make", g.make(0, 2037), 2);
+        Checks.due("sum of the stack", g.stackOf(0, 1), 2037);
+        Checks.due("the stack as a set", g.stackOf(0, 3), 3 << 18);
+        Checks.due("wear", g.count(5), 6);
+        Checks.dueDouble("meanError", g.meanError(), 6.0 / 20.0);
+        g.set(2, 20);
+        for (int i = 0; i < 25; i++) {
+            g.wring(1, 0);
+            g.takeOff(1);
+            g.rest(60);
+        }
+        Checks.due("without a block below there is no wear", g.blockOf(0, 2), 0);
     }
 
     private static void countsOutOfRange() {
