@@ -63,6 +63,23 @@ final class Checks {
         }
     }
 
+    /** The call saves one state, and undo then brings everything back but the buffer. */
+    static void dueUndo(String name, GaugeBlocks blocks, Call call) {
+        String before = stateOf(blocks);
+        int saved = blocks.count(8);
+        call.run();
+        due(name + " saves", blocks.count(8), Math.min(saved + 1, 6));
+        due(name + ", undo", blocks.undo(), Math.min(saved, 5));
+        dueTrue(name + " is undone", stateOf(blocks).equals(before));
+    }
+
+    /** The calls change nothing that can be asked. */
+    static void dueNoChange(String name, GaugeBlocks blocks, Call call) {
+        String before = picture(blocks);
+        call.run();
+        dueTrue(name + " changes nothing", picture(blocks).equals(before));
+    }
+
     static boolean isThrownByTheClass(Throwable thrown) {
         StackTraceElement[] trace = thrown.getStackTrace();
         return trace.length > 0 && trace[0].getClassName().startsWith("GaugeBlocks");
@@ -92,8 +109,14 @@ final class Checks {
 
     /** Everything that can be asked without a length, as one text. */
     static String picture(GaugeBlocks blocks) {
+        return stateOf(blocks) + "; " + blocks.count(8) + " saved; " + blocks.count(9) + " signs, the error at "
+            + blocks.firstError();
+    }
+
+    /** The part of the picture that undo and snapshots bring back. */
+    static String stateOf(GaugeBlocks blocks) {
         StringBuilder out = new StringBuilder();
-        for (int what = 0; what <= 9; what++) {
+        for (int what = 0; what <= 7; what++) {
             out.append(blocks.count(what)).append(' ');
         }
         for (int setting = 0; setting <= 3; setting++) {
@@ -111,7 +134,7 @@ final class Checks {
                 out.append(blocks.stackOf(stack, what)).append(' ');
             }
         }
-        return out.append(blocks.firstError()).append(' ').append(blocks.meanError()).toString();
+        return out.append(blocks.meanError()).toString();
     }
 
     /** A case with blocks of these nominal lengths, without deviations. */
@@ -128,6 +151,47 @@ final class Checks {
         for (int i = 0; i < 20; i++) {
             blocks.block(1000 + i, 0);
         }
+        return blocks;
+    }
+
+    /** Seven blocks, the first six of them in this stack in their order. */
+    static GaugeBlocks withSixIn(int stack) {
+        GaugeBlocks blocks = with(1000, 2000, 3000, 4000, 5000, 6000, 7000);
+        for (int block = 0; block < 6; block++) {
+            blocks.wring(stack, block);
+        }
+        return blocks;
+    }
+
+    /** Holds the block until it has this warmth, which must be a multiple of 5 above the one that it has. */
+    static void warmTo(GaugeBlocks blocks, int block, int warmth) {
+        while (blocks.blockOf(block, 3) < warmth) {
+            blocks.hold(block, Math.min(60, (warmth - blocks.blockOf(block, 3)) / 5));
+        }
+    }
+
+    /** One free, cold block with a deviation from -500 to 500 and a wear up to 1000; the settings are as at first. */
+    static GaugeBlocks worn(int deviation, int wear) {
+        GaugeBlocks blocks = new GaugeBlocks();
+        blocks.block(1000, deviation);
+        blocks.block(1000, 500);
+        blocks.set(3, 0);
+        blocks.wring(0, 0);
+        for (int left = wear; left > 0; left -= 20) {
+            blocks.set(2, Math.min(20, left));
+            if (blocks.stackOf(0, 0) == 1) {
+                blocks.wring(0, 1);
+            } else {
+                blocks.takeOff(0);
+            }
+        }
+        blocks.set(2, 0);
+        while (blocks.stackOf(0, 0) > 0) {
+            blocks.takeOff(0);
+        }
+        blocks.discard(1);
+        blocks.set(2, 3);
+        blocks.set(3, 40);
         return blocks;
     }
 }

@@ -73,7 +73,7 @@ final class UndoTest {
 
     private static void undoRestoresEverything() {
         GaugeBlocks g = busy();
-        String before = withoutSaved(g);
+        String before = Checks.stateOf(g);
         g.set(0, 1);
         g.set(1, 1000);
         g.set(2, 2);
@@ -84,16 +84,7 @@ final class UndoTest {
         for (int i = 0; i < 6; i++) {
             g.undo();
         }
-        Checks.dueTrue("undo restored everything", withoutSaved(g).equals(before));
-    }
-
-    private static String withoutSaved(GaugeBlocks g) {
-        int saved = g.count(8);
-        String picture = Checks.picture(g);
-        Checks.dueTrue("the picture shows the saved states", picture.contains(" " + saved + " "));
-        String[] parts = picture.split(" ");
-        parts[8] = "-";
-        return String.join(" ", parts);
+        Checks.dueTrue("undo restored everything", Checks.stateOf(g).equals(before));
     }
 
     private static void undoableCallsSave() {
@@ -120,14 +111,9 @@ final class UndoTest {
 
     /** With six states saved, only what undo then restores tells whether one more was saved. */
     private static void dueSave(String name, GaugeBlocks g, Checks.Call call) {
-        String before = withoutSaved(g);
-        int saved = g.count(8);
         int buffer = g.count(9);
-        call.run();
-        Checks.due(name + " saves", g.count(8), Math.min(saved + 1, 6));
+        Checks.dueUndo(name, g, call);
         if (buffer == 0) {
-            Checks.due(name + ", undo", g.undo(), Math.min(saved, 5));
-            Checks.dueTrue(name + " is undone", withoutSaved(g).equals(before));
             call.run();
         }
     }
@@ -155,23 +141,23 @@ final class UndoTest {
 
     private static void snapshots() {
         GaugeBlocks g = busy();
-        String before = withoutSaved(g);
+        String before = Checks.stateOf(g);
         Checks.due("keep", g.keep(0), 3);
         g.discard(2);
         Checks.due("keep another", g.keep(1), 2);
-        String later = withoutSaved(g);
+        String later = Checks.stateOf(g);
         g.set(0, 60);
         g.takeOff(0);
         g.discard(0);
         g.rest(60);
         Checks.due("back to the first", g.goBack(0), 3);
-        Checks.dueTrue("the first is restored", withoutSaved(g).equals(before));
+        Checks.dueTrue("the first is restored", Checks.stateOf(g).equals(before));
         Checks.due("back to the second", g.goBack(1), 2);
-        Checks.dueTrue("the second is restored", withoutSaved(g).equals(later));
+        Checks.dueTrue("the second is restored", Checks.stateOf(g).equals(later));
         Checks.due("a snapshot replaces the one before", g.keep(0), 2);
         g.rest(1);
         Checks.due("back to the new one", g.goBack(0), 2);
-        Checks.dueTrue("the new one is restored", withoutSaved(g).equals(later));
+        Checks.dueTrue("the new one is restored", Checks.stateOf(g).equals(later));
         GaugeBlocks empty = new GaugeBlocks();
         Checks.due("keep without blocks", empty.keep(1), 0);
         empty.block(500, 0);
