@@ -106,7 +106,8 @@ final class BlocksSentences {
             for (int block = 0; block < 4; block++) {
                 int was = block < gone ? block : block + 1;
                 for (int what = 0; what <= 8; what++) {
-                    Checks.due("blockOf(" + block + ", " + what + ")", g.blockOf(block, what), before.blockOf(was, what));
+                    Checks.due("blockOf(" + block + ", " + what + ") without " + gone, g.blockOf(block, what),
+                        before.blockOf(was, what));
                 }
             }
         }
@@ -160,14 +161,7 @@ final class BlocksSentences {
 
     @Sentence(of = "3", says = "Throws `IndexOutOfBoundsException` if there is no such block")
     static void discardNoSuchBlock() {
-        GaugeBlocks full = Checks.full();
-        for (int block : new int[] {-1, 20, 32, LOW, HIGH}) {
-            Checks.dueIndex("discard(" + block + ") of 20", full, () -> full.discard(block));
-        }
-        full.discard(0);
-        Checks.dueIndex("discard(19) of 19", full, () -> full.discard(19));
-        GaugeBlocks none = new GaugeBlocks();
-        Checks.dueIndex("discard(0) of none", none, () -> none.discard(0));
+        Checks.dueNoSuchBlock("discard", GaugeBlocks::discard);
     }
 
     @Sentence(of = "3", says = "Throws `IllegalStateException` if it is not free")
@@ -253,14 +247,7 @@ final class BlocksSentences {
 
     @Sentence(of = "4", says = "Throws `IndexOutOfBoundsException` if there is no such block")
     static void calibrateNoSuchBlock() {
-        GaugeBlocks full = Checks.full();
-        for (int block : new int[] {-1, 20, 32, LOW, HIGH}) {
-            Checks.dueIndex("calibrate(" + block + ") of 20", full, () -> full.calibrate(block));
-        }
-        full.discard(0);
-        Checks.dueIndex("calibrate(19) of 19", full, () -> full.calibrate(19));
-        GaugeBlocks none = new GaugeBlocks();
-        Checks.dueIndex("calibrate(0) of none", none, () -> none.calibrate(0));
+        Checks.dueNoSuchBlock("calibrate", GaugeBlocks::calibrate);
     }
 
     @Sentence(of = "4", says = "Throws `IllegalStateException` if it is not free")
@@ -342,13 +329,9 @@ final class BlocksSentences {
 
     @Sentence(of = "5", says = "Throws `IndexOutOfBoundsException` if there is no such block")
     static void holdNoSuchBlock() {
-        GaugeBlocks full = Checks.full();
-        for (int block : new int[] {-1, 20, 32, LOW, HIGH}) {
-            Checks.dueIndex("hold(" + block + ", 1)", full, () -> full.hold(block, 1));
-            Checks.dueIndex("hold(" + block + ", 0)", full, () -> full.hold(block, 0));
+        for (int seconds : new int[] {0, 1, 60, 61}) {
+            Checks.dueNoSuchBlock("hold", (g, block) -> g.hold(block, seconds));
         }
-        GaugeBlocks none = new GaugeBlocks();
-        Checks.dueIndex("hold(0, 1) of none", none, () -> none.hold(0, 1));
     }
 
     @Sentence(of = "5", says = "Throws `IllegalArgumentException` if seconds is out of range")
@@ -526,10 +509,10 @@ final class BlocksSentences {
         }
     }
 
-    @Sentence(of = "18", says = "`what`: 0 its nominal length, 1 its error, plus 10000, 2 its wear, 3 its warmth, 4 its "
-        + "grade, 5 its true length, 6 the stack in which it is (NONE if it is free), 7 its place in this stack, 0 for the "
-        + "lowest one (NONE if it is free), 8 how often it was wrung to a stack so far (not counted when another one is "
-        + "wrung to it)")
+    @Sentence(of = "18", says = "`what`: 0 its nominal length, 1 its error, plus 10000, 2 its wear, 3 its warmth, 4 "
+        + "its grade, 5 its true length, 6 the stack in which it is (NONE if it is free), 7 its place in this stack, "
+        + "0 for the lowest one (NONE if it is free), 8 how often it was wrung to a stack so far (not counted when "
+        + "another one is wrung to it)")
     static void blockOfEachWhat() {
         for (int stack = 0; stack <= 2; stack++) {
             GaugeBlocks g = Checks.withSixIn(stack);
@@ -576,13 +559,8 @@ final class BlocksSentences {
 
     @Sentence(of = "18", says = "Throws `IndexOutOfBoundsException` if there is no such block")
     static void blockOfNoSuchBlock() {
-        GaugeBlocks full = Checks.full();
-        GaugeBlocks none = new GaugeBlocks();
         for (int what : new int[] {-1, 0, 1, 2, 3, 4, 5, 6, 7, 8, 9}) {
-            for (int block : new int[] {-1, 20, 32, LOW, HIGH}) {
-                Checks.dueIndex("blockOf(" + block + ", " + what + ")", full, () -> full.blockOf(block, what));
-            }
-            Checks.dueIndex("blockOf(0, " + what + ") of none", none, () -> none.blockOf(0, what));
+            Checks.dueNoSuchBlock("blockOf " + what, (g, block) -> g.blockOf(block, what));
         }
     }
 

@@ -7,6 +7,10 @@ final class Checks {
         int run();
     }
 
+    interface CallOfBlock {
+        int run(GaugeBlocks blocks, int block);
+    }
+
     private Checks() {
     }
 
@@ -43,6 +47,18 @@ final class Checks {
         dueThrow(name, blocks, IndexOutOfBoundsException.class, call);
     }
 
+    /** Numbers beyond both ends: of 20 blocks, when one of them has gone, and without blocks. */
+    static void dueNoSuchBlock(String name, CallOfBlock call) {
+        GaugeBlocks full = full();
+        for (int block : new int[] {-1, 20, 32, Integer.MIN_VALUE, Integer.MAX_VALUE}) {
+            dueIndex(name + " of block " + block + " of 20", full, () -> call.run(full, block));
+        }
+        full.discard(0);
+        dueIndex(name + " of block 19 of 19", full, () -> call.run(full, 19));
+        GaugeBlocks none = new GaugeBlocks();
+        dueIndex(name + " of block 0 of none", none, () -> call.run(none, 0));
+    }
+
     /** The exception must be of this very class, thrown by the class itself, and nothing may have changed. */
     private static void dueThrow(String name, GaugeBlocks blocks, Class<?> type, Call call) {
         made++;
@@ -71,13 +87,6 @@ final class Checks {
         due(name + " saves", blocks.count(8), Math.min(saved + 1, 6));
         due(name + ", undo", blocks.undo(), Math.min(saved, 5));
         dueTrue(name + " is undone", stateOf(blocks).equals(before));
-    }
-
-    /** The calls change nothing that can be asked. */
-    static void dueNoChange(String name, GaugeBlocks blocks, Call call) {
-        String before = picture(blocks);
-        call.run();
-        dueTrue(name + " changes nothing", picture(blocks).equals(before));
     }
 
     static boolean isThrownByTheClass(Throwable thrown) {

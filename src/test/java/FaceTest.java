@@ -71,6 +71,11 @@ final class FaceTest {
             }
         }
         Checks.dueTrue("the methods are " + open, open.equals(Set.of(FACE)));
+        for (Class<?> inside : GaugeBlocks.class.getDeclaredClasses()) {
+            for (Method method : inside.getDeclaredMethods()) {
+                privateNames.add(method.getName());
+            }
+        }
         privateNames.retainAll(publicNames);
         Checks.dueTrue("private methods with public names: " + privateNames, privateNames.isEmpty());
     }

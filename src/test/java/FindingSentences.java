@@ -116,8 +116,8 @@ final class FindingSentences {
         dueOldWay(none, 600000, -1, -1, 600000);
     }
 
-    @Sentence(of = "26",
-        says = "`what`: 0 how many there are, 1 the blocks as a set, 2 the rest when it ended (0 if it does not fail)")
+    @Sentence(of = "26", says = "`what`: 0 how many there are, 1 the blocks as a set, 2 the rest when it ended (0 if "
+        + "it does not fail)")
     static void oldWayEachWhat() {
         GaugeBlocks g = Checks.with(100000, 20000, 11000, 10100, 10010, 10001, 500);
         Checks.due("how many", g.oldWay(161111, 0), 6);
@@ -165,8 +165,8 @@ final class FindingSentences {
         Checks.due("nearest(" + length + ")", g.nearest(length), nearest);
     }
 
-    @Sentence(of = "27", says = "Finds the length that is nearest to a length and that 1 or 2 free blocks make; of two "
-        + "that are as near the shorter one")
+    @Sentence(of = "27", says = "Finds the length that is nearest to a length and that 1 or 2 free blocks make; of "
+        + "two that are as near the shorter one")
     static void nearestFinds() {
         for (int[] lengths : new int[][] {{1000, 2000, 5000}, {5000, 2000, 1000}, {2000, 5000, 1000}}) {
             GaugeBlocks g = Checks.with(lengths);

@@ -113,8 +113,8 @@ final class OrderTextSentences {
         Checks.due("nothing is saved", g.count(8), 0);
     }
 
-    @Sentence(of = "13", says = "Returns its index; the length of the buffer if there is no error (also if the text is "
-        + "not complete)")
+    @Sentence(of = "13",
+        says = "Returns its index; the length of the buffer if there is no error (also if the text is not complete)")
     static void firstErrorReturns() {
         Checks.due("empty", typed("").firstError(), 0);
         String complete = "b500;w0+1;u2;h19,60;r60";
@@ -192,8 +192,8 @@ final class OrderTextSentences {
         Checks.dueUndo("with six saved states", g, () -> g.execute());
     }
 
-    @Sentence(of = "14", says = "Returns how many orders are executed (one that is refused is not counted here, but in "
-        + "count() of 6)")
+    @Sentence(of = "14",
+        says = "Returns how many orders are executed (one that is refused is not counted here, but in count() of 6)")
     static void executeReturns() {
         Checks.due("one", typed("b500").execute(), 1);
         Checks.due("twenty", typed("r1;".repeat(19) + "r60").execute(), 20);

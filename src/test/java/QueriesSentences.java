@@ -27,8 +27,8 @@ final class QueriesSentences {
         dueOrder(g, 0, 1, 2, 0);
     }
 
-    @Sentence(of = "20", says = "`how`: 0 by nominal length, the shortest first, 1 by warmth, the warmest first, 2 by the "
-        + "size of the error, the greatest first; of several the one with the lowest number first")
+    @Sentence(of = "20", says = "`how`: 0 by nominal length, the shortest first, 1 by warmth, the warmest first, 2 "
+        + "by the size of the error, the greatest first; of several the one with the lowest number first")
     static void rankedEachHow() {
         GaugeBlocks g = new GaugeBlocks();
         g.block(2000, 100);
@@ -121,8 +121,8 @@ final class QueriesSentences {
         dueLengths(g, 1000);
     }
 
-    @Sentence(of = "21",
-        says = "`rank`: NONE for the number of different lengths; 0 for the shortest length, 1 for the next one, and so on")
+    @Sentence(of = "21", says = "`rank`: NONE for the number of different lengths; 0 for the shortest length, 1 for "
+        + "the next one, and so on")
     static void lengthsEachRank() {
         GaugeBlocks g = new GaugeBlocks();
         int[] lengths = new int[20];
@@ -178,10 +178,10 @@ final class QueriesSentences {
         }
     }
 
-    @Sentence(of = "22", says = "`what`: 0 the blocks, 1 the free blocks as a set, 2 the minutes so far, 3 the times that "
-        + "blocks were wrung so far, 4 the times that blocks were taken off so far, 5 the wear of all blocks together, 6 "
-        + "the refusals so far (of wring() and make()), 7 the blocks of the grade 3 as a set, 8 the number of saved "
-        + "states, 9 the length of the buffer")
+    @Sentence(of = "22", says = "`what`: 0 the blocks, 1 the free blocks as a set, 2 the minutes so far, 3 the times "
+        + "that blocks were wrung so far, 4 the times that blocks were taken off so far, 5 the wear of all blocks "
+        + "together, 6 the refusals so far (of wring() and make()), 7 the blocks of the grade 3 as a set, 8 the "
+        + "number of saved states, 9 the length of the buffer")
     static void countEachWhat() {
         GaugeBlocks g = new GaugeBlocks();
         dueCounts(g, "at first", 0, 0, 0, 0, 0, 0, 0, 0, 0, 0);
@@ -309,14 +309,7 @@ final class QueriesSentences {
 
     @Sentence(of = "28", says = "Throws `IndexOutOfBoundsException` if there is no such block")
     static void coolInNoSuchBlock() {
-        GaugeBlocks full = Checks.full();
-        for (int block : new int[] {-1, 20, 32, LOW, HIGH}) {
-            Checks.dueIndex("coolIn(" + block + ") of 20", full, () -> full.coolIn(block));
-        }
-        full.discard(0);
-        Checks.dueIndex("coolIn(19) of 19", full, () -> full.coolIn(19));
-        GaugeBlocks none = new GaugeBlocks();
-        Checks.dueIndex("coolIn(0) of none", none, () -> none.coolIn(0));
+        Checks.dueNoSuchBlock("coolIn", GaugeBlocks::coolIn);
     }
 
     // ---- promise 29: lengthIn
@@ -333,8 +326,8 @@ final class QueriesSentences {
         return g;
     }
 
-    @Sentence(of = "29", says = "Tells the true length that a stack would have after some minutes, if nothing else was "
-        + "done")
+    @Sentence(of = "29",
+        says = "Tells the true length that a stack would have after some minutes, if nothing else was done")
     static void lengthInTells() {
         GaugeBlocks g = warmStack();
         int cold = 150000000 - 6 + 10;
@@ -420,8 +413,8 @@ final class QueriesSentences {
         Checks.dueDouble("one without an error counts", g.meanError(), 201.0 / 3.0);
     }
 
-    @Sentence(of = "30", says = "Returns the sum of the sizes as a double, divided by the number of blocks as a double; "
-        + "0.0 without blocks")
+    @Sentence(of = "30", says = "Returns the sum of the sizes as a double, divided by the number of blocks as a "
+        + "double; 0.0 without blocks")
     static void meanErrorReturns() {
         GaugeBlocks g = new GaugeBlocks();
         Checks.dueDouble("without blocks", g.meanError(), 0.0);

@@ -116,8 +116,9 @@ final class TermsSentences {
         Checks.due("the uppermost one again", g.count(1), 8);
     }
 
-    @Sentence(of = "Blocks", says = "The true length of a block is 1000 times its nominal length, plus its deviation, "
-        + "minus its wear, plus nominal length * warmth / 1000 * 115 / 1000 (computed in this order, from left to right)")
+    @Sentence(of = "Blocks", says = "The true length of a block is 1000 times its nominal length, plus its "
+        + "deviation, minus its wear, plus nominal length * warmth / 1000 * 115 / 1000 (computed in this order, from "
+        + "left to right)")
     static void trueLengthOfABlock() {
         GaugeBlocks g = new GaugeBlocks();
         g.block(100000, 900);
@@ -167,7 +168,8 @@ final class TermsSentences {
 
     // ---- stacks
 
-    @Sentence(of = "Stacks", says = "There are three stacks, 0 to 2, each of at most 6 blocks; they are empty at first")
+    @Sentence(of = "Stacks",
+        says = "There are three stacks, 0 to 2, each of at most 6 blocks; they are empty at first")
     static void stacks() {
         for (int stack = 0; stack <= 2; stack++) {
             Checks.due("empty at first", new GaugeBlocks().stackOf(stack, 0), 0);
@@ -182,8 +184,8 @@ final class TermsSentences {
         Checks.dueIndex("no stack 3", g, () -> g.stackOf(3, 0));
     }
 
-    @Sentence(of = "Stacks", says = "The true length of a stack is the sum of the true lengths of its blocks, plus the "
-        + "setting 0 for each place at which two blocks meet; 0 for an empty stack")
+    @Sentence(of = "Stacks", says = "The true length of a stack is the sum of the true lengths of its blocks, plus "
+        + "the setting 0 for each place at which two blocks meet; 0 for an empty stack")
     static void trueLengthOfAStack() {
         GaugeBlocks g = Checks.with(1000, 2000, 3000, 4000, 5000, 6000);
         g.set(2, 0);
@@ -204,8 +206,8 @@ final class TermsSentences {
         Checks.due("empty again", g.stackOf(1, 2), 0);
     }
 
-    @Sentence(of = "Stacks", says = "When a block is wrung to a stack, it becomes its uppermost block; "
-        + "when the uppermost block is taken off, it is free")
+    @Sentence(of = "Stacks", says = "When a block is wrung to a stack, it becomes its uppermost block; when the "
+        + "uppermost block is taken off, it is free")
     static void uppermostBlocks() {
         GaugeBlocks g = Checks.with(1000, 2000, 3000);
         int[] order = {1, 2, 0};
@@ -222,8 +224,8 @@ final class TermsSentences {
         }
     }
 
-    @Sentence(of = "Stacks", says = "In both cases the warmth of this block increases by the setting 3, but at most to "
-        + "1000, and if there is a block below it in the stack, the wear of both increases by the setting 2")
+    @Sentence(of = "Stacks", says = "In both cases the warmth of this block increases by the setting 3, but at most "
+        + "to 1000, and if there is a block below it in the stack, the wear of both increases by the setting 2")
     static void warmthAndWear() {
         GaugeBlocks g = Checks.with(1000, 2000, 3000);
         g.set(1, 1000);
@@ -267,8 +269,8 @@ final class TermsSentences {
         Checks.due("the wear of " + block, g.blockOf(block, 2), wear);
     }
 
-    @Sentence(of = "Stacks", says = "A block is refused by a stack for the first of these reasons that applies: "
-        + "1 the block is not free; 2 the stack has 6 blocks; 3 the warmth of the block is greater than the setting 1; "
+    @Sentence(of = "Stacks", says = "A block is refused by a stack for the first of these reasons that applies: 1 "
+        + "the block is not free; 2 the stack has 6 blocks; 3 the warmth of the block is greater than the setting 1; "
         + "4 its grade is 3")
     static void reasons() {
         GaugeBlocks g = Checks.withSixIn(0);
@@ -366,8 +368,8 @@ final class TermsSentences {
         Checks.due("only free ones", g.fewest(3500, 1), -1);
     }
 
-    @Sentence(of = "Finding blocks", says = "The fewest blocks for a length are 1 to 6 free blocks that make it, as few "
-        + "as possible; of several sets with so many blocks the least bit mask")
+    @Sentence(of = "Finding blocks", says = "The fewest blocks for a length are 1 to 6 free blocks that make it, as "
+        + "few as possible; of several sets with so many blocks the least bit mask")
     static void fewestBlocks() {
         GaugeBlocks seven = Checks.with(600, 600, 600, 600, 600, 600, 600);
         for (int many = 1; many <= 6; many++) {
@@ -393,10 +395,10 @@ final class TermsSentences {
         Checks.due("without a free block", g.oldWay(1001, 2), 1001);
     }
 
-    @Sentence(of = "Finding blocks", says = "As long as the rest is not 0, the last digit of the rest that is not 0 has "
-        + "a place value u (1, 10, 100 and so on); of the free blocks that are not taken yet and whose nominal length is "
-        + "at most the rest, the one is taken for which the rest minus its nominal length is divisible by 10 * u; of "
-        + "several such blocks the longest one, of several of these the one with the lowest number")
+    @Sentence(of = "Finding blocks", says = "As long as the rest is not 0, the last digit of the rest that is not 0 "
+        + "has a place value u (1, 10, 100 and so on); of the free blocks that are not taken yet and whose nominal "
+        + "length is at most the rest, the one is taken for which the rest minus its nominal length is divisible by "
+        + "10 * u; of several such blocks the longest one, of several of these the one with the lowest number")
     static void theBlockThatTheOldWayTakes() {
         GaugeBlocks places = Checks.with(1001, 10010, 20100, 31000, 40000, 100000);
         Checks.due("each place value", places.oldWay(202111, 1), 63);
@@ -471,12 +473,13 @@ final class TermsSentences {
         dueError("r1;r1x", 5);
     }
 
-    @Sentence(of = "Order text", says = "An order is: \"b\" and a nominal length from 500 to 100000 (a block with the "
-        + "deviation 0 comes, as block()); or \"w\", a stack from 0 to 2, \"+\", and a block from 0 to 19 (as wring()); "
-        + "or \"u\" and a stack from 0 to 2 (as takeOff()); or \"h\", a block from 0 to 19, \",\", and a number from 1 to "
-        + "60 (as hold()); or \"r\" and a number from 1 to 60 (as rest())")
+    @Sentence(of = "Order text", says = "An order is: \"b\" and a nominal length from 500 to 100000 (a block with "
+        + "the deviation 0 comes, as block()); or \"w\", a stack from 0 to 2, \"+\", and a block from 0 to 19 (as "
+        + "wring()); or \"u\" and a stack from 0 to 2 (as takeOff()); or \"h\", a block from 0 to 19, \",\", and a "
+        + "number from 1 to 60 (as hold()); or \"r\" and a number from 1 to 60 (as rest())")
     static void orders() {
-        for (String text : new String[] {"b500", "b100000", "w0+0", "w2+19", "u0", "u2", "h0,1", "h19,60", "r1", "r60"}) {
+        String[] edges = {"b500", "b100000", "w0+0", "w2+19", "u0", "u2", "h0,1", "h19,60", "r1", "r60"};
+        for (String text : edges) {
             dueComplete(text);
         }
         dueIncomplete("b499");
@@ -518,8 +521,8 @@ final class TermsSentences {
         dueComplete("b1000");
     }
 
-    @Sentence(of = "Order text", says = "The first error of the buffer is the index of the first character that no order "
-        + "text can have after the characters before it")
+    @Sentence(of = "Order text", says = "The first error of the buffer is the index of the first character that no "
+        + "order text can have after the characters before it")
     static void firstErrors() {
         dueError("x", 0);
         dueError("xb500", 0);
@@ -605,8 +608,8 @@ final class TermsSentences {
         g.takeOff(0);
     }
 
-    @Sentence(of = "Undo and snapshots", says = "Each method that is marked \"Undoable\" saves the state from before the "
-        + "call if it does not throw an exception, even if nothing changes")
+    @Sentence(of = "Undo and snapshots", says = "Each method that is marked \"Undoable\" saves the state from before "
+        + "the call if it does not throw an exception, even if nothing changes")
     static void savingThoughNothingChanges() {
         GaugeBlocks g = Checks.with(1000);
         Checks.dueUndo("set to the same", g, () -> g.set(0, 10));
@@ -724,8 +727,8 @@ final class TermsSentences {
         return states;
     }
 
-    @Sentence(of = "Exceptions", says = "If more than one exception applies to a call, the one that its throws clause "
-        + "lists first is thrown")
+    @Sentence(of = "Exceptions",
+        says = "If more than one exception applies to a call, the one that its throws clause lists first is thrown")
     static void theFirstExceptionOfTheClause() {
         GaugeBlocks g = fullAndBusy();
         Checks.dueIllegal("block: a length before 20 blocks", g, () -> g.block(499, 0));
